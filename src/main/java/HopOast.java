@@ -127,7 +127,8 @@ public final class HopOast {
         }
         history.record(house);
         int executed = 0;
-        while (executed < script.length && script.perform(executed, house)) {
+        while (executed < script.length && script.canPerform(executed, house)) {
+            script.perform(executed, house);
             executed++;
         }
         return executed;
@@ -508,10 +509,11 @@ public final class HopOast {
 
     public int restore(int slot) throws IndexOutOfBoundsException, IllegalStateException {
         requireSlot(slot);
-        if (!history.filled[slot]) {
+        House kept = history.inSlot(slot);
+        if (kept == null) {
             throw new IllegalStateException("the slot is empty");
         }
-        house.copyFrom(history.slots[slot]);
+        house.copyFrom(kept);
         history.forgetChanges();
         return house.minute;
     }
@@ -671,7 +673,7 @@ public final class HopOast {
 
         /** By how many degrees a load cools the floors above it. */
         int coolingBy(int floor) {
-            return isTaken(floor) ? moisture[floor] / 100 : 0;
+            return floor >= 0 && floor < count && mass[floor] > 0 ? moisture[floor] / 100 : 0;
         }
 
         int decrease(int floor, int temperature, int pull) {
@@ -962,20 +964,15 @@ public final class HopOast {
          * A floor above its limit is warmer than 15 degrees, so each degree of heat less is a
          * degree of temperature less: the excess tells how often the heat decreases by 1.
          */
-        int damp() {
+        void damp() {
             int pull = air.pull();
-            int before = heat;
             for (int floor = 0; floor < floors.count; floor++) {
                 int excess = temperature(floor, pull) - floors.limit[floor];
                 if (excess > 0) {
                     heat -= excess;
+                    dampedHeat += excess;
                 }
             }
-            return before - heat;
-        }
-
-        void dampAndCount() {
-            dampedHeat += damp();
         }
 
         void place(int floor, int mass, int moisture) {
@@ -989,7 +986,7 @@ public final class HopOast {
 
         void putOnTop(int mass, int moisture) {
             place(floors.count - 1, mass, moisture);
-            dampAndCount();
+            damp();
         }
 
         int obstacle(int floor) {
@@ -1016,7 +1013,7 @@ public final class HopOast {
 
         void lowerOne(int floor) {
             moveOrPack(floor);
-            dampAndCount();
+            damp();
         }
 
         int lowerAll() {
@@ -1027,24 +1024,24 @@ public final class HopOast {
                     lowered++;
                 }
             }
-            dampAndCount();
+            damp();
             return lowered;
         }
 
         void stoke(int newHeat) {
             heat = newHeat;
-            dampAndCount();
+            damp();
         }
 
         void shiftGear(int newGear) {
             air.gear = newGear;
-            dampAndCount();
+            damp();
         }
 
         void changeWind(int direction, int strength) {
             air.windDirection = direction;
             air.windStrength = strength;
-            dampAndCount();
+            damp();
         }
 
         boolean canWait(int minutes) {
@@ -1062,7 +1059,7 @@ public final class HopOast {
                 vaneSteps += air.turnVane();
                 dryLoads();
                 burnt += sacks.glow();
-                dampedHeat += damp();
+                damp();
             }
             return burnt;
         }
@@ -1079,25 +1076,19 @@ public final class HopOast {
         }
     }
 
-    /** The changes that can be undone, in a ring of houses, and the slots. */
+    /** The changes that can be undone, in a ring of houses, and the slots; an empty slot is null. */
     private static final class History {
         int count;
         private int first;
         private final House[] past = new House[MAX_UNDO];
-        final House[] slots = new House[SLOTS];
-        final boolean[] filled = new boolean[SLOTS];
-
-        History() {
-            for (int i = 0; i < MAX_UNDO; i++) {
-                past[i] = new House();
-            }
-            for (int slot = 0; slot < SLOTS; slot++) {
-                slots[slot] = new House();
-            }
-        }
+        private final House[] slots = new House[SLOTS];
 
         void record(House house) {
-            past[(first + count) % MAX_UNDO].copyFrom(house);
+            int place = (first + count) % MAX_UNDO;
+            if (past[place] == null) {
+                past[place] = new House();
+            }
+            past[place].copyFrom(house);
             if (count < MAX_UNDO) {
                 count++;
             } else {
@@ -1108,7 +1099,10 @@ public final class HopOast {
         void takeBack(House house) {
             if (count > 0) {
                 count--;
-                house.copyFrom(past[(first + count) % MAX_UNDO]);
+                House earlier = past[(first + count) % MAX_UNDO];
+                if (earlier != null) {
+                    house.copyFrom(earlier);
+                }
             }
         }
 
@@ -1116,14 +1110,22 @@ public final class HopOast {
             count = 0;
         }
 
+        House inSlot(int slot) {
+            return slot >= 0 && slot < SLOTS ? slots[slot] : null;
+        }
+
         void fill(int slot, House house) {
-            slots[slot].copyFrom(house);
-            filled[slot] = true;
+            if (slot >= 0 && slot < SLOTS) {
+                if (slots[slot] == null) {
+                    slots[slot] = new House();
+                }
+                slots[slot].copyFrom(house);
+            }
         }
 
         void emptySlots() {
             for (int slot = 0; slot < SLOTS; slot++) {
-                filled[slot] = false;
+                slots[slot] = null;
             }
         }
     }
@@ -1308,6 +1310,7 @@ public final class HopOast {
                 tokens.fail(SYNTAX);
             }
             draft.damp();
+            draft.dampedHeat = 0;
         }
 
         private void readFireAndWind() {
@@ -1370,79 +1373,64 @@ public final class HopOast {
             }
         }
 
-        /** Returns false, and does nothing, if the method of the command would throw. */
-        boolean perform(int index, House house) {
+        /** Tells whether the method of the command would not throw. */
+        boolean canPerform(int index, House house) {
             if (index < 0 || index >= length) {
                 return false;
+            }
+            switch (verbs[index]) {
+                case DO_LOAD:
+                    return house.canPut();
+                case DO_LOWER:
+                    return house.obstacle(firsts[index]) == NO_OBSTACLE;
+                case DO_SELL:
+                    return house.sacks.canSell(firsts[index]);
+                case DO_QUENCH:
+                    return house.sacks.isStored(firsts[index]);
+                case DO_WAIT:
+                    return house.canWait(firsts[index]);
+                default:
+                    return true;
+            }
+        }
+
+        void perform(int index, House house) {
+            if (index < 0 || index >= length) {
+                return;
             }
             int first = firsts[index];
             int second = seconds[index];
             switch (verbs[index]) {
                 case DO_LOAD:
-                    return putIfPossible(house, first, second);
+                    house.putOnTop(first, second);
+                    break;
                 case DO_LOWER:
-                    return lowerIfPossible(house, first);
+                    house.lowerOne(first);
+                    break;
                 case DO_ROTATE:
                     house.lowerAll();
-                    return true;
+                    break;
                 case DO_FIRE:
                     house.stoke(first);
-                    return true;
+                    break;
                 case DO_GEAR:
                     house.shiftGear(first);
-                    return true;
+                    break;
                 case DO_WIND:
                     house.changeWind(first, second);
-                    return true;
+                    break;
                 case DO_SELL:
-                    return sellIfPossible(house, first);
+                    house.sacks.giveAway(first);
+                    break;
                 case DO_QUENCH:
-                    return quenchIfPossible(house, first);
+                    house.sacks.wet(first);
+                    break;
                 case DO_WAIT:
-                    return waitIfPossible(house, first);
+                    house.passMinutes(first);
+                    break;
                 default:
-                    return false;
+                    break;
             }
-        }
-
-        private static boolean putIfPossible(House house, int mass, int moisture) {
-            boolean possible = house.canPut();
-            if (possible) {
-                house.putOnTop(mass, moisture);
-            }
-            return possible;
-        }
-
-        private static boolean lowerIfPossible(House house, int floor) {
-            boolean possible = house.obstacle(floor) == NO_OBSTACLE;
-            if (possible) {
-                house.lowerOne(floor);
-            }
-            return possible;
-        }
-
-        private static boolean sellIfPossible(House house, int sack) {
-            boolean possible = house.sacks.canSell(sack);
-            if (possible) {
-                house.sacks.giveAway(sack);
-            }
-            return possible;
-        }
-
-        private static boolean quenchIfPossible(House house, int sack) {
-            boolean possible = house.sacks.isStored(sack);
-            if (possible) {
-                house.sacks.wet(sack);
-            }
-            return possible;
-        }
-
-        private static boolean waitIfPossible(House house, int minutes) {
-            boolean possible = house.canWait(minutes);
-            if (possible) {
-                house.passMinutes(minutes);
-            }
-            return possible;
         }
     }
 

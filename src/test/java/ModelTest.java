@@ -60,10 +60,35 @@ public final class ModelTest {
             text(setup());
             change("load", oast::load, model::load);
         }
+        switch (random.nextInt(6)) {
+            case 0:
+                begin("repeat 20(wait 120;wait 120;);");
+                begin("repeat 20(wait 120;wait 120;);");
+                break;
+            case 1:
+                begin(packing());
+                begin(packing());
+                break;
+            default:
+        }
         for (int i = 0; i < CALLS && !wrong; i++) {
             step();
             look();
         }
+    }
+
+    /** Runs a script that leads to where single calls seldom come. */
+    private void begin(String script) {
+        text(script);
+        change("runScript", oast::runScript, model::runScript);
+        look();
+    }
+
+    private String packing() {
+        int wet = random.nextInt(4) == 0 ? upTo(100) : upTo(59);
+        String cool = random.nextInt(3) == 0 ? "quench " + upTo(9) + ";" : "";
+        return "gear 0;fire 90;repeat 20(load " + (1 + upTo(98)) + " " + wet + ";rotate;rotate;"
+                + (random.nextBoolean() ? "rotate;" : "") + (random.nextInt(3) == 0 ? "wait 1;" : "") + ");" + cool;
     }
 
     private int upTo(int high) {
