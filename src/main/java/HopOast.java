@@ -1076,12 +1076,16 @@ public final class HopOast {
         }
     }
 
-    /** The changes that can be undone, in a ring of houses, and the slots; an empty slot is null. */
+    /**
+     * The changes that can be undone, in a ring of houses, and the slots. Houses that are forgotten
+     * stay there for the next change and the next save, so that a long run makes no more of them.
+     */
     private static final class History {
         int count;
         private int first;
         private final House[] past = new House[MAX_UNDO];
         private final House[] slots = new House[SLOTS];
+        private final boolean[] filled = new boolean[SLOTS];
 
         void record(House house) {
             int place = (first + count) % MAX_UNDO;
@@ -1111,7 +1115,7 @@ public final class HopOast {
         }
 
         House inSlot(int slot) {
-            return slot >= 0 && slot < SLOTS ? slots[slot] : null;
+            return slot >= 0 && slot < SLOTS && filled[slot] ? slots[slot] : null;
         }
 
         void fill(int slot, House house) {
@@ -1120,12 +1124,13 @@ public final class HopOast {
                     slots[slot] = new House();
                 }
                 slots[slot].copyFrom(house);
+                filled[slot] = true;
             }
         }
 
         void emptySlots() {
             for (int slot = 0; slot < SLOTS; slot++) {
-                slots[slot] = null;
+                filled[slot] = false;
             }
         }
     }

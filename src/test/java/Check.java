@@ -1,51 +1,64 @@
-import java.util.BitSet;
+import java.util.HashSet;
+import java.util.LinkedHashSet;
 import java.util.NoSuchElementException;
+import java.util.Set;
 
-/** Counts wrong answers, and remembers which promises were tested. */
+/** Counts wrong answers, and remembers which promises and sentences of the document were tested. */
 final class Check {
     /** A call that may throw. */
     interface Call {
         void run();
     }
 
-    private final BitSet tested = new BitSet();
-    private int promise;
+    private final Set<String> due = new LinkedHashSet<>();
+    private final Set<String> tested = new HashSet<>();
+    private String topic = "";
     private int wrong;
 
+    /** What is checked from here on belongs to this promise. */
     void promise(int number) {
-        promise = number;
+        topic = "promise " + number;
+    }
+
+    /** What is checked from here on belongs to this sentence, which must stand in the document. */
+    void sentence(String text) {
+        topic = '"' + text + '"';
+        due.add(topic);
+        if (!Document.says(text)) {
+            report("the document does not say so");
+        }
     }
 
     void same(String what, long due, long got) {
-        tested.set(promise);
+        tested.add(topic);
         if (due != got) {
             report(what + " answered " + got + ", due is " + due);
         }
     }
 
     void same(String what, double due, double got) {
-        tested.set(promise);
+        tested.add(topic);
         if (due != got) {
             report(what + " answered " + got + ", due is " + due);
         }
     }
 
     void same(String what, String due, String got) {
-        tested.set(promise);
+        tested.add(topic);
         if (!due.equals(got)) {
             report(what + " answered '" + got + "', due is '" + due + "'");
         }
     }
 
     void yes(String what, boolean got) {
-        tested.set(promise);
+        tested.add(topic);
         if (!got) {
             report(what + " is false");
         }
     }
 
     void no(String what, boolean got) {
-        tested.set(promise);
+        tested.add(topic);
         if (got) {
             report(what + " is true");
         }
@@ -67,8 +80,9 @@ final class Check {
         fails(what, NoSuchElementException.class, call);
     }
 
-    private void fails(String what, Class<?> due, Call call) {
-        tested.set(promise);
+    /** The call throws this very exception, not one of a class below it. */
+    void fails(String what, Class<?> due, Call call) {
+        tested.add(topic);
         Class<?> got = null;
         try {
             call.run();
@@ -82,14 +96,22 @@ final class Check {
 
     private void report(String line) {
         wrong++;
-        System.out.println("promise " + promise + ": " + line);
+        System.out.println(topic + ": " + line);
     }
 
-    /** Ends the program: with code 1 if an answer was wrong or a promise from 1 to last was not tested. */
+    /** As close, but the promises from 1 to last must have been tested too. */
     void close(int last) {
         for (int number = 1; number <= last; number++) {
-            if (!tested.get(number)) {
-                promise = number;
+            due.add("promise " + number);
+        }
+        close();
+    }
+
+    /** Ends the program with code 1 if an answer was wrong, or something was not tested that was due. */
+    void close() {
+        for (String each : due) {
+            topic = each;
+            if (!tested.contains(each)) {
                 report("not tested");
             }
         }

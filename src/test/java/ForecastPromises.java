@@ -16,15 +16,10 @@ final class ForecastPromises {
 
     private void temperatureAfter() {
         check.promise(46);
-        HopOast oast = Oasts.of("oast 60 1 4 6 0;floor 70;floor 62;floor 90;load 0 20 250;load 1 30 420;");
-        HopOast other = Oasts.of("oast 60 1 4 6 0;floor 70;floor 62;floor 90;load 0 20 250;load 1 30 420;");
-        for (int minutes = 0; minutes <= 300; minutes++) {
-            for (int floor = 0; floor < 3; floor++) {
-                check.same("floor " + floor + " after " + minutes, other.temperatureOf(floor),
-                        oast.temperatureAfter(floor, minutes));
-            }
-            other.advance(1);
+        for (int first = 0; first <= 300; first += 60) {
+            temperaturesFrom(first, Math.min(first + 59, 300));
         }
+        HopOast oast = Oasts.of("oast 60 1 4 6 0;floor 70;floor 62;floor 90;load 0 20 250;load 1 30 420;");
         check.outside("floor 3", () -> oast.temperatureAfter(3, 0));
         check.outside("floor -1", () -> oast.temperatureAfter(-1, 0));
         check.outside("floor 3 and minutes 301", () -> oast.temperatureAfter(3, 301));
@@ -33,6 +28,22 @@ final class ForecastPromises {
         check.illegalArgument("minutes", () -> oast.temperatureAfter(0, Integer.MAX_VALUE));
         check.same("the fire after 300 minutes", 15 + 75 - 30,
                 Oasts.of("oast 75 0 0 0 0;floor 90;").temperatureAfter(0, 300));
+    }
+
+    /** Compares forecasts with a house in which the minutes pass; an object has 512 calls. */
+    private void temperaturesFrom(int first, int last) {
+        HopOast oast = Oasts.of("oast 60 1 4 6 0;floor 70;floor 62;floor 90;load 0 20 250;load 1 30 420;");
+        HopOast other = Oasts.of("oast 60 1 4 6 0;floor 70;floor 62;floor 90;load 0 20 250;load 1 30 420;");
+        for (int passed = 0; passed < first; passed += 60) {
+            other.advance(60);
+        }
+        for (int minutes = first; minutes <= last; minutes++) {
+            for (int floor = 0; floor < 3; floor++) {
+                check.same("floor " + floor + " after " + minutes, other.temperatureOf(floor),
+                        oast.temperatureAfter(floor, minutes));
+            }
+            other.advance(1);
+        }
     }
 
     private void minutesUntilDry() {

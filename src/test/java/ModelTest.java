@@ -3,13 +3,14 @@ import java.util.function.Supplier;
 
 /** Plays many seeded runs on HopOast and on the model, and compares every answer and all that can be seen. */
 public final class ModelTest {
-    private static final int RUNS = 1500;
-    private static final int CALLS = 120;
+    private static final int RUNS = 6000;
+    private static final int CALLS = 512;
 
     private final Random random;
     private final HopOast oast = new HopOast();
     private final ModelOast model = new ModelOast();
     private final StringBuilder story = new StringBuilder();
+    private int calls;
     private boolean wrong;
 
     private ModelTest(long seed) {
@@ -39,12 +40,24 @@ public final class ModelTest {
         }
     }
 
+    /** Calls both, as long as the object may be used. */
     private void both(String what, Supplier<Object> mine, Supplier<Object> due) {
+        if (calls >= CALLS) {
+            return;
+        }
+        calls++;
         String got = answer(mine);
         String want = answer(due);
         if (!got.equals(want) && !wrong) {
             wrong = true;
             story.append(what).append(" answered ").append(got).append(", due is ").append(want).append('\n');
+        }
+    }
+
+    /** As both, but only now and then, so that the calls last for a long run. */
+    private void see(String what, Supplier<Object> mine, Supplier<Object> due) {
+        if (random.nextInt(12) == 0) {
+            both(what, mine, due);
         }
     }
 
@@ -71,7 +84,7 @@ public final class ModelTest {
                 break;
             default:
         }
-        for (int i = 0; i < CALLS && !wrong; i++) {
+        while (calls < CALLS && !wrong) {
             step();
             look();
         }
@@ -292,31 +305,31 @@ public final class ModelTest {
     }
 
     private void look() {
-        both("errorCode", oast::errorCode, () -> model.code);
-        both("errorPosition", oast::errorPosition, () -> model.position);
-        both("minute", oast::minute, () -> model.now.minute);
-        both("heat", oast::heat, () -> model.now.heat);
-        both("gear", oast::gear, () -> model.now.gear);
-        both("windDirection", oast::windDirection, () -> model.now.windDirection);
-        both("windStrength", oast::windStrength, () -> model.now.windStrength);
-        both("vaneDirection", oast::vaneDirection, () -> model.now.vane);
-        both("deviation", oast::deviation, () -> model.now.deviation());
-        both("draught", oast::draught, () -> model.now.draught());
-        both("floorCount", oast::floorCount, () -> model.now.floors.size());
-        both("warmestFloor", oast::warmestFloor, model::warmestFloor);
-        both("sackCount", oast::sackCount, () -> model.now.sacks.size());
-        both("smoulderingSacks", oast::smoulderingSacks, model::smoulderingSacks);
-        both("hottestSack", oast::hottestSack, model::hottestSack);
-        both("loadedMass", oast::loadedMass, () -> model.now.loaded);
-        both("soldMass", oast::soldMass, () -> model.now.sold);
-        both("burntMass", oast::burntMass, () -> model.now.burnt);
-        both("income", oast::income, () -> model.now.income);
-        both("dampedHeat", oast::dampedHeat, () -> model.now.damped);
-        both("vaneSteps", oast::vaneSteps, () -> model.now.vaneSteps);
-        both("meanMoisture", oast::meanMoisture, model::meanMoisture);
-        both("loadedShare", oast::loadedShare, model::loadedShare);
-        both("contradictions", oast::contradictions, () -> 0);
-        both("undoCount", oast::undoCount, () -> model.undo.size());
+        see("errorCode", oast::errorCode, () -> model.code);
+        see("errorPosition", oast::errorPosition, () -> model.position);
+        see("minute", oast::minute, () -> model.now.minute);
+        see("heat", oast::heat, () -> model.now.heat);
+        see("gear", oast::gear, () -> model.now.gear);
+        see("windDirection", oast::windDirection, () -> model.now.windDirection);
+        see("windStrength", oast::windStrength, () -> model.now.windStrength);
+        see("vaneDirection", oast::vaneDirection, () -> model.now.vane);
+        see("deviation", oast::deviation, () -> model.now.deviation());
+        see("draught", oast::draught, () -> model.now.draught());
+        see("floorCount", oast::floorCount, () -> model.now.floors.size());
+        see("warmestFloor", oast::warmestFloor, model::warmestFloor);
+        see("sackCount", oast::sackCount, () -> model.now.sacks.size());
+        see("smoulderingSacks", oast::smoulderingSacks, model::smoulderingSacks);
+        see("hottestSack", oast::hottestSack, model::hottestSack);
+        see("loadedMass", oast::loadedMass, () -> model.now.loaded);
+        see("soldMass", oast::soldMass, () -> model.now.sold);
+        see("burntMass", oast::burntMass, () -> model.now.burnt);
+        see("income", oast::income, () -> model.now.income);
+        see("dampedHeat", oast::dampedHeat, () -> model.now.damped);
+        see("vaneSteps", oast::vaneSteps, () -> model.now.vaneSteps);
+        see("meanMoisture", oast::meanMoisture, model::meanMoisture);
+        see("loadedShare", oast::loadedShare, model::loadedShare);
+        see("contradictions", oast::contradictions, () -> 0);
+        see("undoCount", oast::undoCount, () -> model.undo.size());
         for (int i = -1; i <= 4; i++) {
             lookAtFloor(i);
         }
@@ -324,38 +337,39 @@ public final class ModelTest {
             lookAtSack(i);
         }
         int index = about(0, Math.max(0, model.output.length() - 1));
-        both("outputByte " + index, () -> oast.outputByte(index), () -> model.outputByte(index));
-        both("output", () -> Oasts.output(oast), () -> model.output);
+        see("outputByte " + index, () -> oast.outputByte(index), () -> model.outputByte(index));
+        if (random.nextInt(30) == 0 && calls + model.output.length() < CALLS) {
+            calls += model.output.length();
+            both("output", () -> Oasts.output(oast), () -> model.output);
+        }
     }
 
     private void lookAtFloor(int f) {
-        both("limitOf " + f, () -> oast.limitOf(f), () -> model.limitOf(f));
-        both("temperatureOf " + f, () -> oast.temperatureOf(f), () -> model.temperatureOf(f));
-        both("hasLoad " + f, () -> oast.hasLoad(f), () -> model.hasLoad(f));
-        both("massOn " + f, () -> oast.massOn(f), () -> model.massOn(f));
-        both("moistureOn " + f, () -> oast.moistureOn(f), () -> model.moistureOn(f));
-        both("scorchOn " + f, () -> oast.scorchOn(f), () -> model.scorchOn(f));
-        both("isDry " + f, () -> oast.isDry(f), () -> model.isDry(f));
-        both("dryingOn " + f, () -> oast.dryingOn(f), () -> model.dryingOn(f));
-        both("obstacleToLower " + f, () -> oast.obstacleToLower(f), () -> model.obstacleToLower(f));
-        if (random.nextInt(8) == 0) {
+        see("limitOf " + f, () -> oast.limitOf(f), () -> model.limitOf(f));
+        see("temperatureOf " + f, () -> oast.temperatureOf(f), () -> model.temperatureOf(f));
+        see("hasLoad " + f, () -> oast.hasLoad(f), () -> model.hasLoad(f));
+        see("massOn " + f, () -> oast.massOn(f), () -> model.massOn(f));
+        see("moistureOn " + f, () -> oast.moistureOn(f), () -> model.moistureOn(f));
+        see("scorchOn " + f, () -> oast.scorchOn(f), () -> model.scorchOn(f));
+        see("isDry " + f, () -> oast.isDry(f), () -> model.isDry(f));
+        see("dryingOn " + f, () -> oast.dryingOn(f), () -> model.dryingOn(f));
+        see("obstacleToLower " + f, () -> oast.obstacleToLower(f), () -> model.obstacleToLower(f));
+        if (random.nextInt(3) == 0) {
             int minutes = about(0, 300);
-            both("temperatureAfter " + f + " " + minutes, () -> oast.temperatureAfter(f, minutes),
+            see("temperatureAfter " + f + " " + minutes, () -> oast.temperatureAfter(f, minutes),
                     () -> model.temperatureAfter(f, minutes));
-            both("minutesUntilDry " + f, () -> oast.minutesUntilDry(f), () -> model.minutesUntilDry(f));
+            see("minutesUntilDry " + f, () -> oast.minutesUntilDry(f), () -> model.minutesUntilDry(f));
         }
     }
 
     private void lookAtSack(int s) {
-        both("sackState " + s, () -> oast.sackState(s), () -> model.sackState(s));
-        both("sackMass " + s, () -> oast.sackMass(s), () -> model.sack(s).load.mass);
-        both("sackMoisture " + s, () -> oast.sackMoisture(s), () -> model.sack(s).load.moisture);
-        both("sackTemperature " + s, () -> oast.sackTemperature(s), () -> model.sack(s).temperature);
-        both("isSmouldering " + s, () -> oast.isSmouldering(s), () -> model.sack(s).smoulders());
-        both("qualityOf " + s, () -> oast.qualityOf(s), () -> model.sack(s).quality());
-        both("priceOf " + s, () -> oast.priceOf(s), () -> model.sack(s).price());
-        if (random.nextInt(12) == 0) {
-            both("minutesUntilBurnt " + s, () -> oast.minutesUntilBurnt(s), () -> model.minutesUntilBurnt(s));
-        }
+        see("sackState " + s, () -> oast.sackState(s), () -> model.sackState(s));
+        see("sackMass " + s, () -> oast.sackMass(s), () -> model.sack(s).load.mass);
+        see("sackMoisture " + s, () -> oast.sackMoisture(s), () -> model.sack(s).load.moisture);
+        see("sackTemperature " + s, () -> oast.sackTemperature(s), () -> model.sack(s).temperature);
+        see("isSmouldering " + s, () -> oast.isSmouldering(s), () -> model.sack(s).smoulders());
+        see("qualityOf " + s, () -> oast.qualityOf(s), () -> model.sack(s).quality());
+        see("priceOf " + s, () -> oast.priceOf(s), () -> model.sack(s).price());
+        see("minutesUntilBurnt " + s, () -> oast.minutesUntilBurnt(s), () -> model.minutesUntilBurnt(s));
     }
 }

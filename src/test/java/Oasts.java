@@ -39,8 +39,10 @@ final class Oasts {
 
     static String output(HopOast oast) {
         StringBuilder text = new StringBuilder();
-        for (int i = 0; oast.outputByte(i) != HopOast.NONE; i++) {
-            text.append((char) oast.outputByte(i));
+        int value = oast.outputByte(0);
+        while (value != HopOast.NONE) {
+            text.append((char) value);
+            value = oast.outputByte(text.length());
         }
         return text.toString();
     }
@@ -53,5 +55,33 @@ final class Oasts {
     static String sacks(HopOast oast) {
         oast.writeSacks();
         return output(oast);
+    }
+
+    /** All that undo restores, as the calls of the face tell it. */
+    static String see(HopOast oast) {
+        StringBuilder seen = new StringBuilder(glance(oast));
+        for (int floor = 0; floor < oast.floorCount(); floor++) {
+            seen.append(oast.limitOf(floor)).append('/');
+            seen.append(oast.temperatureOf(floor)).append('/').append(oast.massOn(floor)).append('/');
+            seen.append(oast.hasLoad(floor) ? oast.moistureOn(floor) + "/" + oast.scorchOn(floor) : ".").append(' ');
+        }
+        for (int sack = 0; sack < oast.sackCount(); sack++) {
+            seen.append(oast.sackState(sack)).append('/').append(oast.sackMass(sack)).append('/');
+            seen.append(oast.sackMoisture(sack)).append('/').append(oast.qualityOf(sack)).append('/');
+            seen.append(oast.sackTemperature(sack)).append(' ');
+        }
+        return seen.toString();
+    }
+
+    /** What a few calls tell of all that undo restores: an object has 512 calls. */
+    static String glance(HopOast oast) {
+        StringBuilder seen = new StringBuilder();
+        int[] numbers = {oast.minute(), oast.heat(), oast.gear(), oast.windDirection(), oast.windStrength(),
+                oast.vaneDirection(), oast.floorCount(), oast.sackCount(), oast.loadedMass(), oast.soldMass(),
+                oast.burntMass(), oast.income(), oast.dampedHeat(), oast.vaneSteps(), oast.contradictions()};
+        for (int number : numbers) {
+            seen.append(number).append(' ');
+        }
+        return seen.append(oast.meanMoisture()).append(' ').toString();
     }
 }

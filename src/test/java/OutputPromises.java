@@ -125,17 +125,17 @@ final class OutputPromises {
         check.same("none", 0, oast.undoCount());
         check.promise(62);
         HopOast full = new HopOast();
-        String before = see(full);
+        String before = Oasts.see(full);
         Oasts.run(full, "fire 90;gear 0;wind 6 9;wait 9;rotate;load 5 50;rotate;wait 3;rotate;quench 0;sell 0;wait 40;");
-        check.no("the script does something", before.equals(see(full)));
+        check.no("the script does something", before.equals(Oasts.see(full)));
         full.undo();
-        check.same("everything is restored", before, see(full));
+        check.same("everything is restored", before, Oasts.see(full));
         HopOast scorched = scorchedHouse();
-        before = see(scorched);
+        before = Oasts.see(scorched);
         scorched.advance(3);
-        check.no("minutes scorch", before.equals(see(scorched)));
+        check.no("minutes scorch", before.equals(Oasts.see(scorched)));
         scorched.undo();
-        check.same("scorch points are restored", before, see(scorched));
+        check.same("scorch points are restored", before, Oasts.see(scorched));
     }
 
     /** A load and a sack with scorch points, a sack that smoulders. */
@@ -145,26 +145,6 @@ final class OutputPromises {
         oast.lower(0);
         oast.lower(1);
         return oast;
-    }
-
-    private static String see(HopOast oast) {
-        StringBuilder seen = new StringBuilder();
-        int[] numbers = {oast.minute(), oast.heat(), oast.gear(), oast.windDirection(), oast.windStrength(),
-                oast.vaneDirection(), oast.floorCount(), oast.sackCount(), oast.loadedMass(), oast.soldMass(),
-                oast.burntMass(), oast.income(), oast.dampedHeat(), oast.vaneSteps(), oast.contradictions()};
-        for (int number : numbers) {
-            seen.append(number).append(' ');
-        }
-        for (int floor = 0; floor < oast.floorCount(); floor++) {
-            seen.append(oast.temperatureOf(floor)).append('/').append(oast.massOn(floor)).append('/');
-            seen.append(oast.hasLoad(floor) ? oast.moistureOn(floor) + "/" + oast.scorchOn(floor) : ".").append(' ');
-        }
-        for (int sack = 0; sack < oast.sackCount(); sack++) {
-            seen.append(oast.sackState(sack)).append('/').append(oast.sackMass(sack)).append('/');
-            seen.append(oast.sackMoisture(sack)).append('/').append(oast.qualityOf(sack)).append('/');
-            seen.append(oast.sackTemperature(sack)).append(' ');
-        }
-        return seen.toString();
     }
 
     private void undoLeaves() {
@@ -192,13 +172,13 @@ final class OutputPromises {
         HopOast oast = Oasts.of("oast 75 0 0 0 0;floor 90;");
         oast.save(0);
         Oasts.run(oast, "load 5 120;wait 4;lower 0;quench 0;");
-        String before = see(oast);
+        String before = Oasts.see(oast);
         oast.save(1);
         oast.restore(0);
         Oasts.run(oast, "load 6 90;lower 0;sell 0;");
         check.same("the other sack", 6, oast.sackMass(0));
         oast.restore(1);
-        check.same("the first sack", before, see(oast));
+        check.same("the first sack", before, Oasts.see(oast));
         check.same("its mass", 5, oast.sackMass(0));
         check.same("4 scorch points and 56 for the moisture", 100 - 4 - (120 - 28 + 100 - 80) / 2, oast.qualityOf(0));
     }
@@ -217,19 +197,19 @@ final class OutputPromises {
         check.promise(63);
         check.same("minute", 3, oast.save(1));
         check.same("save is no change", 2, oast.undoCount());
-        String saved = see(oast);
+        String saved = Oasts.see(oast);
         check.promise(64);
         check.illegalState("slot 0 is empty", () -> oast.restore(0));
         Oasts.run(oast, "sell 0;fire 90;gear 4;wind 0 0;rotate;wait 120;load 5 5;");
-        check.no("the script does something", saved.equals(see(oast)));
+        check.no("the script does something", saved.equals(Oasts.see(oast)));
         check.same("minute", 3, oast.restore(1));
-        check.same("everything is restored", saved, see(oast));
+        check.same("everything is restored", saved, Oasts.see(oast));
         check.same("no change can be undone", 0, oast.undoCount());
         check.illegalState("no change can be undone", () -> oast.undo());
         oast.advance(1);
         check.same("one change", 1, oast.undoCount());
         check.same("the slot keeps it", 3, oast.restore(1));
-        check.same("once more", saved, see(oast));
+        check.same("once more", saved, Oasts.see(oast));
         oast.advance(7);
         check.promise(63);
         check.same("minute", 10, oast.save(0));
@@ -240,12 +220,12 @@ final class OutputPromises {
         check.same("slot 0", 10, oast.restore(0));
         check.same("slot 1 was replaced", 11, oast.restore(1));
         HopOast scorched = scorchedHouse();
-        String before = see(scorched);
+        String before = Oasts.see(scorched);
         scorched.save(0);
         Oasts.run(scorched, "quench 0;sell 0;lower 0;wait 9;");
         Oasts.load(new HopOast(), "oast 1 1 1 1 1;floor 70;");
         scorched.restore(0);
-        check.same("scorch points are restored", before, see(scorched));
+        check.same("scorch points are restored", before, Oasts.see(scorched));
         Oasts.run(scorched, "quench 0;sell 0;lower 0;wait 9;");
         otherSack();
         check.promise(64);

@@ -6,7 +6,7 @@ import java.lang.management.ManagementFactory;
  */
 public final class RoomTest {
     private static final int CALLS = 512;
-    private static final long FEW_BYTES = 200_000;
+    private static final long FEW_BYTES = 20_000;
 
     private RoomTest() {
     }
@@ -27,7 +27,7 @@ public final class RoomTest {
     }
 
     private static void play(HopOast oast) {
-        for (int call = 0; call < CALLS / 8; call++) {
+        for (int call = 0; call < CALLS / 16; call++) {
             // repeat 9(repeat 9(wait 9;););
             oast.append(0x72657065, 0x61742039, 0x28726570, 0x65617420, 0x39287761);
             oast.append(0x69742039, 0x3b293b29, 0x3b000000, 0, 0);
@@ -37,6 +37,15 @@ public final class RoomTest {
             oast.writeSacks();
             oast.save(0);
             oast.restore(0);
+            oast.save(1);
+            oast.minutesUntilDry(0);
+            oast.undoCount();
+            // oast 9 0 0 0 0;floor 90;load 0 1 1;
+            oast.append(0x6f617374, 0x20392030, 0x20302030, 0x20303b66, 0x6c6f6f72);
+            oast.append(0x2039303b, 0x6c6f6164, 0x20302031, 0x20313b00, 0);
+            if (oast.load() != 0) {
+                throw new AssertionError("the setup is wrong at " + oast.errorPosition());
+            }
         }
     }
 }
