@@ -569,7 +569,6 @@ public final class HopOast {
         }
     }
 
-    /** Fan, wind and vane. */
     private static final class Air {
         int gear;
         int windDirection;
@@ -1135,7 +1134,6 @@ public final class HopOast {
         }
     }
 
-    /** The text buffer. */
     private static final class Text {
         int length;
         private final int[] bytes = new int[MAX_TEXT];
@@ -1289,7 +1287,6 @@ public final class HopOast {
         }
     }
 
-    /** Reads a setup into a draft of a house. */
     private static final class SetupReader {
         private final Tokens tokens;
         private final House draft;
@@ -1439,7 +1436,6 @@ public final class HopOast {
         }
     }
 
-    /** Reads a script. */
     private static final class ScriptReader {
         private final Tokens tokens;
         private final Script script;
@@ -1578,7 +1574,6 @@ public final class HopOast {
         }
     }
 
-    /** The output. */
     private static final class Output {
         int length;
         private final int[] bytes = new int[MAX_OUTPUT];
